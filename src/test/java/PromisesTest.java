@@ -334,6 +334,28 @@ public final class PromisesTest {
     due(x.undo(), STATE, "undo()");
     x.cost(0, 6);
     due(x.undo(), 0, "a cost told anew is an act, too");
+    manyActs();
+  }
+
+  /** 32 acts of all sorts in turn: 24 are undone, back to what stood behind the first 8. */
+  private static void manyActs() {
+    WantedTypes x = of(FIVE);
+    for (int k = 0; k < 8; k++) {
+      x.hide(k % 5, x.member(k % 5, 6) == 1 ? 0 : 1);
+      x.cost(1 + k % 4, 9 - k);
+      x.above(3, k % 4);
+      x.above(2, k % 3);
+      if (k == 1) x.image(0);
+    }
+    for (int k = 23; k >= 0; k--) due(x.undo(), k, "undo() of many");
+    int[][] was = new int[5][3];
+    for (int m = 0; m < 5; m++) was[m] = new int[] {x.member(m, 1), x.member(m, 6), x.type(m % 4, 0)};
+    x.restore(0);
+    for (int m = 0; m < 5; m++) {
+      due(was[m][0], x.member(m, 1), "the cost of " + m);
+      due(was[m][1], x.member(m, 6), "whether hidden: " + m);
+      due(was[m][2], x.type(m % 4, 0), "the type above " + m % 4);
+    }
   }
 
   private static void members() {

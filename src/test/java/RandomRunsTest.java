@@ -107,6 +107,7 @@ public final class RandomRunsTest {
       if (what < 2) tell(text());
       else if (what < 4) tell(spoilt(text()));
       else if (what < 14) wordOfList();
+      else if (what < 16) acts(random.nextInt(40));
       else any(NAMES[random.nextInt(NAMES.length)]);
       same("status");
     }
@@ -173,6 +174,11 @@ public final class RandomRunsTest {
       same("word", row, 0, n, 0);
       same("word", row, random.nextInt(3), n, 1);
     }
+  }
+
+  private void acts(int many) {
+    for (int k = 0; k < many; k++) any(new String[] {"hide", "cost", "above"}[random.nextInt(3)]);
+    for (int k = random.nextInt(26); k > 0; k--) same("undo");
   }
 
   private void any(String name) {
