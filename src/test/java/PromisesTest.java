@@ -498,8 +498,9 @@ public final class PromisesTest {
 
   private static void places() {
     promise = "19 place";
-    WantedTypes x = of("w1;u0;c0,1,0,0;l0,2;l0,1;");
+    WantedTypes x;
     for (int k = 0; k < 300; k += 7) {
+      x = of("w1;u0;c0,1,0,0;l0,2;l0,1;");
       int n = 0;
       x.row(0, 1, 24);
       while (n < 24 && x.listed(0, k, n) != NONE) {
@@ -611,6 +612,7 @@ public final class PromisesTest {
     long at = 12345;
     int prices = 0, members = 0;
     for (int n = 1; n <= 60; n++) {
+      x = of("w2;u0;u1;c0,1,0,0;l0,2;l0,1;");
       at = at * 16807 % 2147483647;
       prices += x.listed(0, (int) (at % all), -1);
       for (int j = 0; x.listed(0, (int) (at % all), j) != NONE; j++) members++;

@@ -14,6 +14,8 @@ public final class RandomRunsTest {
       6, 7, 8, 11, 12, 23, 24, 25, 39, 40, 41, 59, 60, 61, 140, 255, 256, 998, 999, 1000, 999998, 999999, 1000000,
       999999997, 999999998, 999999999, 1000000000, Integer.MAX_VALUE - 1, Integer.MAX_VALUE};
   private static final int RUNS = 1500;
+  /** What an object answers behind these is free. */
+  private static final int MOST_CALLS = 512;
 
   private final Random random;
   private final WantedTypes real = new WantedTypes();
@@ -53,6 +55,7 @@ public final class RandomRunsTest {
   }
 
   private int same(String name, int... a) {
+    if (calls >= MOST_CALLS) return model.call(name, a);
     calls++;
     int got = onReal(name, a);
     int due = model.call(name, a);
@@ -102,7 +105,7 @@ public final class RandomRunsTest {
 
   private void play() {
     if (random.nextInt(4) > 0) tell(text());
-    while (calls < 500 && wrong == 0) {
+    while (calls < MOST_CALLS && wrong == 0) {
       int what = random.nextInt(100);
       if (what < 2) tell(text());
       else if (what < 4) tell(spoilt(text()));

@@ -16,7 +16,7 @@ public final class RoomTest {
     long made = threads.getThreadAllocatedBytes(self);
     play(x);
     long behind = threads.getThreadAllocatedBytes(self);
-    System.out.println("an object takes " + (made - start) + " bytes, " + CALLS + " calls " + (behind - made));
+    System.out.println("an object takes " + (made - start) + " bytes, some " + CALLS + " calls " + (behind - made));
     boolean small = made - start <= MOST_BYTES_MADE && behind - made <= 1000;
     if (!small) System.exit(1);
   }
@@ -29,7 +29,8 @@ public final class RoomTest {
       calls++;
     }
     x.world();
-    for (int k = 0; calls < CALLS; k++) {
+    calls++;
+    for (int k = 0; calls + 9 <= CALLS; k++) {
       x.row(k % 8, k % 3, 40);
       x.cost(k % 2, 1 + k % 9);
       x.image(k % 2);
