@@ -1160,15 +1160,15 @@ public final class WantedTypes {
         }
 
         private int sizeOf(int member) {
-            return world.isKind(member, CALL) ? sizeOfCall(member) : sizeOfLocal(member);
+            switch (world.kind[member]) {
+                case CALL: case MAKER: return sizeOfCall(member);
+                case FAR: return body12(member);
+                default: return body11(member);
+            }
         }
 
         private int markOf(int member) {
             return world.isKind(member, CALL) ? body23(member) : markOfLocal(member);
-        }
-
-        private int sizeOfLocal(int member) {
-            return world.isKind(member, FAR) ? body12(member) : body11(member);
         }
 
         private int sizeOfCall(int member) {
@@ -1209,14 +1209,11 @@ public final class WantedTypes {
             return body13(member) * 2;
         }
 
-        private int body20(int member) {
-            begin(20);
-            return member;
-        }
-
+        /** Body 20, that is lent, has nothing to work out, and stands within this and 23 to keep calls flat. */
         private int body21(int member) {
             begin(21);
-            return body20(member) + world.gives[member];
+            begin(20);
+            return member + world.gives[member];
         }
 
         private int body22(int member) {
@@ -1226,8 +1223,8 @@ public final class WantedTypes {
 
         private int body23(int member) {
             begin(23);
-            int lent = body20(member);
-            return lent - sizeOfCall(member);
+            begin(20);
+            return member - sizeOfCall(member);
         }
 
         private int body24(int member) {

@@ -56,16 +56,21 @@ public final class LanguageTest {
       names.add(m.getName());
     }
     hold(open.equals(due), "1: the face is " + open);
-    for (Method m : c.getDeclaredMethods()) {
-      boolean twice = Modifier.isPrivate(m.getModifiers()) && names.contains(m.getName());
-      hold(!twice, "1: a private method " + m.getName());
-    }
+    privateNames(c, names);
+    for (Class<?> inside : c.getDeclaredClasses()) privateNames(inside, names);
     Constructor<?>[] makers = c.getDeclaredConstructors();
     hold(makers.length == 1 && Modifier.isPublic(makers[0].getModifiers()) && makers[0].getParameterCount() == 0,
         "1: one public constructor");
     Set<String> shown = new TreeSet<>();
     for (Field f : c.getDeclaredFields()) if (!Modifier.isPrivate(f.getModifiers())) shown.add(f.getName());
     hold(shown.equals(Set.of("NONE", "BAD", "STATE", "FULL")), "1: fields " + shown);
+  }
+
+  private static void privateNames(Class<?> c, Set<String> open) {
+    for (Method m : c.getDeclaredMethods()) {
+      boolean twice = Modifier.isPrivate(m.getModifiers()) && open.contains(m.getName());
+      hold(!twice, "1: a private method " + m.getName() + " of " + c);
+    }
   }
 
   private static String told(Method m) {

@@ -146,6 +146,16 @@ public final class ListBoundaryTest {
     Held.due(x, 24, "cheapest", 1);
     x.hide(1, 1);
     Held.due(x, NONE, "cheapest", 1);
+    // a call that takes two, with both of them: 12 and 11 and its own
+    x = Held.of("w3;u0;u1;u2;o1,4;f2,9;c0,1,1,2;m0,1,2,2;");
+    Held.due(x, 24, "cheapest", 0);
+    Held.due(x, NONE, "without", 0, 2);
+    x.cost(2, 2);
+    Held.due(x, NONE, "cheapest", 0);
+    x.cost(1, 8);
+    Held.due(x, 23, "without", 0, 2);
+    Held.due(x, 23, "cheapest", 0);
+    Held.due(x, 24, "without", 0, 3);
   }
 
   private static void listedBounds() {
