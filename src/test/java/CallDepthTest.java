@@ -5,8 +5,8 @@ import com.sun.source.tree.NewClassTree;
 import com.sun.source.util.JavacTask;
 import com.sun.source.util.TreePathScanner;
 import com.sun.source.util.Trees;
-import java.io.IOException;
 import java.io.File;
+import java.io.IOException;
 import java.util.ArrayDeque;
 import java.util.Deque;
 import java.util.HashMap;
@@ -65,6 +65,10 @@ public final class CallDepthTest {
   }
 
   public static void main(String[] args) throws IOException {
+    if (ToolProvider.getSystemJavaCompiler() == null) {
+      System.out.println("this java has no compiler in it: how deep calls go was not looked at");
+      return;
+    }
     Map<String, Set<String>> calls = read();
     Map<String, Integer> depths = new HashMap<>();
     int wrong = 0;
