@@ -29,6 +29,7 @@ public final class ListBoundaryTest {
     had();
     needed();
     without();
+    takenBeforeItIsTold();
     shareBounds();
     shareOver();
     drawnBounds();
@@ -437,6 +438,35 @@ public final class ListBoundaryTest {
     Held.due(x, 24, "without", 0, 0);
     Held.due(x, NONE, "without", 0, 1);
     Held.due(x, 1, "count", 3);
+  }
+
+  /** Each type is had by a call of the one before it alone, and the members are told in the other order. */
+  private static void takenBeforeItIsTold() {
+    Held.sentence("TYPES (bits) of which there is an EXPRESSION of any PRICE (also above 24)");
+    String types = "w8;u0;u1;u2;u3;u4;u5;u6;u7;";
+    WantedTypes x = Held.of(types + "c7,4,6;c6,4,5;c5,4,4;c4,4,3;c3,4,2;c2,4,1;c1,4,0;l0,1;");
+    Held.due(x, 255, "had");
+    for (int t = 0; t < 8; t++) {
+      Held.due(x, t < 6 ? 1 + 4 * t : NONE, "cheapest", t);
+      Held.due(x, 256 - (1 << 7 - t), "needed", t);
+      for (int m = 0; m < 8; m++) Held.due(x, m < 7 - t && t < 6 ? 1 + 4 * t : NONE, "without", t, m);
+    }
+    x.hide(4, 1);
+    Held.due(x, 7, "had");
+    Held.due(x, 224, "needed", 2);
+    Held.due(x, 0, "needed", 3);
+    Held.sentence("PRICE of the first of THE LIST of a TYPE; NONE. BAD.");
+    // what is dear at first is had for less by a way that is found later
+    x = Held.of("w4;u0;u1;u2;u3;c3,1,2,1;c2,1,1,0;l1,9;l2,9;c1,1,0;l0,1;");
+    int[] least = {1, 2, 4, 7};
+    int[] withoutCall = {1, 9, 9, 12};
+    for (int t = 0; t < 4; t++) {
+      Held.due(x, least[t], "cheapest", t);
+      Held.due(x, least[t], "listed", t, 0, -1);
+    }
+    Held.due(x, withoutCall[1], "without", 1, 4);
+    Held.due(x, withoutCall[2], "without", 2, 1);
+    Held.due(x, withoutCall[3], "without", 3, 1);
   }
 
   private static void shareBounds() {
